@@ -678,6 +678,7 @@ final class PromiseTests {
             due("due on day " + d, due[d], x.due(0));
         }
         due("nobody at all", 0, told("t1,1;h1;").due(0));
+        due("all five", 31, told("t1,1;c1,1,0;c2,1,0;c3,1,0;c4,1,0;c5,1,0;").due(99));
     }
 
     // Promise 18
