@@ -1,6 +1,6 @@
 /** Counts and prints the answers that are not as due, and ends with exit code 1 if there was one. */
 final class Checks {
-    private static final long SECONDS = 300;
+    private static final long SECONDS = 120;
 
     private static String within = "";
     private static int asked = 0;
