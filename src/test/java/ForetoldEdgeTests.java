@@ -379,6 +379,25 @@ final class ForetoldEdgeTests extends Edges {
         }
     }
 
+    @Says("PLAN for d DAYS from this one on (1 to 3)")
+    private static void plansOfTheUsualTowerInAnyOrder() {
+        int[][] orders = {{1, 2, 3}, {1, 3, 2}, {2, 1, 3}, {2, 3, 1}, {3, 1, 2}, {3, 2, 1}};
+        for (int[] order : orders) {
+            TowerBraid x = told("t20,20;h30;s12;g25;r18;w15;h9;c40,1,0;c55,3,2;c20,2,1;c90,9,4;");
+            for (int d : order) {
+                // By all but the twine 40 makes 8; on the third day 55 must be borne, too.
+                planned(x, new int[] {1, 3, 10}[d - 1], new int[][] {{47}, {47, 47}, {47, 47, 31}}[d - 1]);
+            }
+            x.cut(2);
+            noPlan(x, 1);
+            x.day();
+            noPlan(x, 1);
+            x.undo();
+            x.undo();
+            planned(x, new int[] {1, 3, 10}[order[0] - 1], new int[][] {{47}, {47, 47}, {47, 47, 31}}[order[0] - 1]);
+        }
+    }
+
     private static void plannedOnDay0(TowerBraid x, int d) {
         switch (d) {
             case 1 -> planned(x, 1, 1);
