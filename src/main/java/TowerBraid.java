@@ -996,7 +996,7 @@ public final class TowerBraid {
                     leastAhead[day] = leastAhead[day + 1] + leastOfDay[day];
                 }
                 least[d] = NO_WEAR;
-                search(tower, d, 0, 0);
+                search(this, tower, d, 0, 0);
                 known[d] = true;
             }
             return least[d] < NO_WEAR;
@@ -1027,21 +1027,23 @@ public final class TowerBraid {
         }
 
         /** Goes through sets from the least on, so that of several the first stays. */
-        private void search(Tower tower, int d, int day, int wear) {
+        private static void search(Planner plans, Tower tower, int d, int day, int wear) {
             if (day >= d || day >= PLANNED_DAYS) {
-                least[d] = wear;
-                System.arraycopy(tried, 0, best[d], 0, PLANNED_DAYS);
+                plans.least[d] = wear;
+                System.arraycopy(plans.tried, 0, plans.best[d], 0, PLANNED_DAYS);
                 return;
             }
-            int due = tower.dueIn(day);
             for (int set = 0; set < SETS; set++) {
-                int sum = wear + wears[day][set];
-                if (sum + leastAhead[day + 1] < least[d]
-                        && letAllClimb(tower, due, set, worn[day], worn[day + 1]) < NO_WEAR) {
-                    tried[day] = set;
-                    search(tower, d, day + 1, sum);
+                int sum = wear + plans.wears[day][set];
+                if (sum + plans.leastAhead[day + 1] < plans.least[d] && plans.areBorne(tower, day, set)) {
+                    plans.tried[day] = set;
+                    search(plans, tower, d, day + 1, sum);
                 }
             }
+        }
+
+        private boolean areBorne(Tower tower, int day, int set) {
+            return letAllClimb(tower, tower.dueIn(day), set, worn[day], worn[day + 1]) < NO_WEAR;
         }
 
         /** By how much all is worn more then, or NO_WEAR if one is not BORNE. */

@@ -238,6 +238,19 @@ final class ActEdgeTests extends Edges {
         due("five hold", 62, y.count(7));
     }
 
+    @Says("then those left that do not HOLD by their new SHARE, and so on")
+    private static void strandsBreakOnAnyDayOfAnyTower() {
+        for (String law : new String[] {"t1,1;", "t6,6;", "t50,99;"}) {
+            TowerBraid x = plaited(law + "s16;s19;s24;s32;s49;s99;c99,1,0;", 63);
+            for (int day = 0; day < 12; day++) {
+                due(law + " five break on day " + day, 5, x.climb(0));
+                due(law + " the last holds on day " + day, 32, x.count(7));
+                x.undo();
+                x.day();
+            }
+        }
+    }
+
     @Says("if none is left, the CLIMBER FELL")
     private static void ifNoneIsLeftTheClimberFell() {
         TowerBraid x = plaited("t1,1;s16;s19;s24;s32;s49;s98;c99,1,0;c9,1,0;", 63);
@@ -440,6 +453,21 @@ final class ActEdgeTests extends Edges {
     }
 
     @Says("ACTS (24 at most are kept, of more the oldest is forgotten;")
+    private static void theLatest24AreUndoneHoweverManyThereWere() {
+        for (int acts = 24; acts <= 80; acts++) {
+            TowerBraid x = told("t1,1;");
+            for (int i = 0; i < acts; i++) {
+                x.day();
+            }
+            for (int left = 23; left >= 0; left--) {
+                due("undo of " + acts, left, x.undo());
+                due("day, of " + acts, acts - 24 + left, x.count(3));
+            }
+            due("no more of " + acts, STATE, x.undo());
+        }
+    }
+
+    @Says("ACTS (24 at most are kept, of more the oldest is forgotten;")
     private static void actsAreKeptAnewBehindThoseUndone() {
         TowerBraid x = told("t1,50;");
         for (int i = 0; i < 30; i++) {
@@ -490,6 +518,40 @@ final class ActEdgeTests extends Edges {
         due("both are there", 3, x.count(7));
         due("none is gone", 0, x.strand(1, 2));
         worn("never", x, 0, 0);
+    }
+
+    @Says("each can be undone, the latest first;")
+    private static void theWearOfEachStrandIsUndone() {
+        TowerBraid x = told("t1,1;r9;r9;r9;r9;r9;r9;c1,1,0;");
+        int[] worn = new int[6];
+        for (int s = 0; s < 6; s++) {
+            x.plait(1 << s);
+            for (int times = 0; times <= s; times++) {
+                x.climb(0);
+                worn[s]++;
+                worn("behind a climb", x, worn);
+            }
+            x.climb(0);
+            x.undo();
+            worn("undone", x, worn);
+        }
+    }
+
+    @Says("each can be undone, the latest first;")
+    private static void theFallOfEachClimberByEachStrandIsUndone() {
+        TowerBraid x = told("t1,1;s1;s1;s1;s1;s1;s1;c9,1,0;c9,1,0;c9,1,0;c9,1,0;c9,1,0;");
+        for (int s = 0; s < 6; s++) {
+            for (int c = 0; c < 5; c++) {
+                x.plait(1 << s);
+                x.climb(c);
+                due("fell, " + c, 1, x.climber(c, 3));
+                due("gone, " + s, 1, x.strand(s, 2));
+                x.undo();
+                due("not fallen, " + c, 0, x.climber(c, 3));
+                due("not gone, " + s, 0, x.strand(s, 2));
+                due("plaited again", 1 << s, x.count(7));
+            }
+        }
     }
 
     @Says("each can be undone, the latest first;")

@@ -87,6 +87,32 @@ final class ForetoldEdgeTests extends Edges {
         planned(x, 0, 0, 0, 2);
     }
 
+    @Says("PLAN for d DAYS from this one on (1 to 3)")
+    private static void plansStayWhateverIsPlannedBehindThem() {
+        TowerBraid x = told("t1,1;h20;r30;r30;c39,3,2;c9,3,1;c25,3,0;");
+        int[] wear = {1, 1, 3};
+        int[][] sets = {{2}, {2, 1}, {2, 1, 6}};
+        for (int before = 1; before <= 3; before++) {
+            for (int d = 1; d <= 3; d++) {
+                planned(x, wear[d - 1], sets[d - 1]);
+                planned(x, wear[before - 1], sets[before - 1]);
+            }
+            due("never", NONE, x.never());
+        }
+    }
+
+    @Says("a set for each DAY (0, if nobody is DUE on it)")
+    private static void eachSetMayBePlanned() {
+        for (int set = 1; set < 64; set++) {
+            StringBuilder text = new StringBuilder("t1,1;");
+            for (int s = 0; s < 6; s++) {
+                text.append((set & 1 << s) != 0 ? "s9;" : "s1;");
+            }
+            text.append('c').append(9 * Integer.bitCount(set)).append(",1,0;");
+            planned(text.toString(), 0, set, set, set);
+        }
+    }
+
     @Says("a set for each DAY (0, if nobody is DUE on it)")
     private static void nobodyIsDue() {
         planned("t1,1;s9;c9,2,1;", 0, 0, 1, 0);
@@ -144,6 +170,47 @@ final class ForetoldEdgeTests extends Edges {
         planned(x, 2, 3);
         x.undo();
         planned(x, 1, 2);
+    }
+
+    @Says("STRANDS being WORN by those ahead")
+    private static void eachStrandIsWornByThoseAhead() {
+        for (int s = 0; s < 6; s++) {
+            String[] strands = {"s1;", "s1;", "s1;", "s1;", "s1;", "s1;"};
+            strands[s] = "r10;";
+            String text = "t1,1;" + String.join("", strands);
+            TowerBraid x = plaited(text + "c9,1,0;", 1 << s);
+            planned(x, 1, 1 << s);
+            planned(x, 2, 1 << s, 1 << s);
+            noPlan(x, 3);
+            x.climb(0);
+            planned(x, 1, 1 << s);
+            noPlan(x, 2);
+            x.climb(0);
+            noPlan(x, 1);
+            x.undo();
+            planned(x, 1, 1 << s);
+            noPlan(told(text + "c9,1,0;c9,1,0;c9,1,0;"), 1);
+            planned(text + "c9,1,0;c9,1,0;", 2, 1 << s);
+        }
+    }
+
+    @Says("a twine BEARS twice, if it is the only one.")
+    private static void aTwineIsPlannedByHowManyStrandsThereAre() {
+        // However many are due: alone it bears 20 and 20 less 1, in company 10.
+        planned("t1,1;w10;c15,1,0;c19,1,0;", 2, 1);
+        noPlan(told("t1,1;w10;c15,1,0;c20,1,0;"), 1);
+        planned("t1,1;w10;c15,1,0;c15,1,0;c18,1,0;", 3, 1);
+        noPlan(told("t1,1;w10;c15,1,0;c15,1,0;c19,1,0;"), 1);
+        for (int c = 0; c < 5; c++) {
+            String[] climbers = {"c1,9,8;", "c1,9,8;", "c1,9,8;", "c1,9,8;", "c1,9,8;"};
+            climbers[c] = "c22,1,0;";
+            noPlan(told("t1,1;w10;s10;" + String.join("", climbers)), 1);
+            planned("t1,1;w11;s10;" + String.join("", climbers), 2, 1);
+            climbers[c] = "c20,1,0;";
+            planned("t1,1;w10;s10;" + String.join("", climbers), 1, 3);
+            climbers[c] = "c23,1,0;";
+            noPlan(told("t1,1;w11;s11;" + String.join("", climbers)), 1);
+        }
     }
 
     @Says("the one by which all STRANDS are WORN least at last (added)")
@@ -340,6 +407,23 @@ final class ForetoldEdgeTests extends Edges {
         planned(x, 3, 1, 1, 2);
         x.undo();
         planned(x, 3, 1, 1, 1);
+    }
+
+    @Says("3 FORETOLD (nothing changes).")
+    private static void plansAreAnewBehindThoseThatThereWereNot() {
+        int[][] sets = {{1}, {1, 1}, {1, 1, 1}};
+        for (int none = 1; none <= 3; none++) {
+            for (int d = 1; d <= 3; d++) {
+                TowerBraid x = told("t1,1;s9;c10,1,0;");
+                noPlan(x, none);
+                x.peg(1);
+                planned(x, 0, sets[d - 1]);
+                x.undo();
+                noPlan(x, d);
+                x.peg(1);
+                planned(x, 0, sets[none - 1]);
+            }
+        }
     }
 
     @Says("3 FORETOLD (nothing changes).")
@@ -1240,6 +1324,41 @@ final class ForetoldEdgeTests extends Edges {
             x.day();
             x.cut(3);
             x.peg(0);
+        }
+    }
+
+    @Says(of = 29, value = "The TOWER is as an IMAGE kept it (no ACT can be undone then): 1.")
+    private static void eachStrandAndClimberIsAsAnImageKeptIt() {
+        TowerBraid x = told("t2,5;h91;s12;g93;r14;w95;r16;c20,9,1;c30,8,2;c50,7,3;c60,6,4;c97,5,3;");
+        int[][] acts = {{1, 3}, {2, 1}, {4, 2}, {8, 4}, {16, 4}, {48, 0}, {48, 0}};
+        for (int[] act : acts) {
+            x.plait(act[0]);
+            x.climb(act[1]);
+        }
+        x.day();
+        x.day();
+        x.cut(1);
+        x.peg(1);
+        x.image(1);
+        fed(x, "t9,9;s1;s1;s1;s1;s1;s1;c1,1,0;c1,1,0;c1,1,0;c1,1,0;c1,1,0;").tower();
+        due("restore", 1, x.restore(1));
+        int[] counts = {0, 6, 5, 2, 2, 6, 1, 48, 0, 0};
+        for (int what = 0; what < 10; what++) {
+            due("count " + what, counts[what], x.count(what));
+        }
+        int[] kinds = {1, 2, 3, 4, 5, 4};
+        int[][] strands = {{91, 6, 0, 0}, {12, 0, 1, 0}, {93, 10, 0, 0}, {14, 0, 1, 0}, {95, 7, 0, 1}, {16, 2, 0, 1}};
+        for (int s = 0; s < 6; s++) {
+            for (int what = 0; what < 4; what++) {
+                due("strand " + s + ", " + what, strands[s][what], x.strand(s, what));
+            }
+            due("kind " + s, kinds[s], x.kind(s));
+        }
+        int[][] climbers = {{20, 9, 1, 0, 1, 5}, {30, 8, 2, 1, 1, 8}, {50, 7, 3, 0, 1, 13}, {60, 6, 4, 0, 0, 15}, {97, 5, 3, 1, 0, 25}};
+        for (int c = 0; c < 5; c++) {
+            for (int what = 0; what < 6; what++) {
+                due("climber " + c + ", " + what, climbers[c][what], x.climber(c, what));
+            }
         }
     }
 

@@ -357,6 +357,26 @@ final class TextEdgeTests extends Edges {
         due("both can be plaited", 2, x.plait(3));
     }
 
+    @Says("no STRAND is in the PLAIT, WORN, or GONE")
+    private static void noneOfSixStrandsIsWornOrGone() {
+        String text = "t1,1;r9;r9;r9;r9;r9;r9;c54,1,0;c60,1,0;";
+        TowerBraid x = told(text);
+        x.plait(63);
+        due("all hold", 0, x.climb(0));
+        fed(x, text).tower();
+        for (int s = 0; s < 6; s++) {
+            due("worn " + s, 0, x.strand(s, 1));
+        }
+        x.plait(63);
+        due("all break", 6, x.climb(1));
+        fed(x, text).tower();
+        for (int s = 0; s < 6; s++) {
+            due("gone " + s, 0, x.strand(s, 2));
+        }
+        due("all can be plaited", 6, x.plait(63));
+        due("and hold", 0, x.climb(0));
+    }
+
     @Says("there is no PEG")
     private static void aNewTowerHasNoPeg() {
         TowerBraid x = before();
@@ -373,6 +393,21 @@ final class TextEdgeTests extends Edges {
         due("fell", 1, x.climber(0, 3));
         x.tower();
         due("fell", 0, x.climber(0, 3));
+    }
+
+    @Says("nobody FELL")
+    private static void noneOfFiveClimbersFell() {
+        String text = "t1,1;s1;s1;s1;s1;s1;c9,1,0;c9,1,0;c9,1,0;c9,1,0;c9,1,0;";
+        TowerBraid x = told(text);
+        for (int c = 0; c < 5; c++) {
+            x.plait(1 << c);
+            x.climb(c);
+            due("fell, " + c, 1, x.climber(c, 3));
+        }
+        fed(x, text).tower();
+        for (int c = 0; c < 5; c++) {
+            due("not fallen, " + c, 0, x.climber(c, 3));
+        }
     }
 
     @Says("no ACT can be undone; IMAGES and ROWS stay.")
@@ -453,6 +488,22 @@ final class TextEdgeTests extends Edges {
         read(text.substring(0, 7), 0, 0);
         read(text.substring(0, 11), 1, 0);
         fault(LONGEST.substring(0, 80), 80, 1);
+    }
+
+    @Says("the end: how many bytes there are)")
+    private static void theEndIsAheadOfWhatStoodOnALongerTape() {
+        String longer = "t1111111111111,1;1111h1111;1111c1111,1,0;";
+        for (String text : new String[] {"t", "t1", "t1,", "t1,1", "t1,1;h", "t1,1;h1", "t1,1;c", "t1,1;c1,1,0"}) {
+            TowerBraid x = fed(new TowerBraid(), longer);
+            due("longer", -1000101, x.tower());
+            fed(x, text);
+            due("end of " + text, -1000100 - text.length(), x.tower());
+            due("its fault", 1, x.fault());
+        }
+        TowerBraid y = fed(new TowerBraid(), longer);
+        y.tower();
+        fed(y, "t1,1;");
+        due("nothing of it is read", 0, y.tower());
     }
 
     @Says("1 it cannot stand there, or is none")
