@@ -213,6 +213,27 @@ final class ForetoldEdgeTests extends Edges {
         }
     }
 
+    @Says("a twine BEARS twice, if it is the only one.")
+    private static void aTwineIsTheOnlyOneWhicheverItIs() {
+        for (int s = 0; s < 6; s++) {
+            String[] strands = {"s1;", "s1;", "s1;", "s1;", "s1;", "s1;"};
+            strands[s] = "w10;";
+            String text = "t1,1;" + String.join("", strands);
+            TowerBraid x = plaited(text + "c20,1,0;c21,9,8;", 1 << s);
+            planned(x, 2, 1 << s);
+            noPlan(x, 2);
+            due("20 alone", 1, x.borne(0, 1 << s));
+            due("21 alone", 0, x.borne(1, 1 << s));
+            due("needed", 1 << s, x.needed(0));
+            due("strongest", 20, x.strongest(0));
+            due("stoutest", 1 << s, x.strongest(1));
+            fraction(x, 0, 5, 1, 2);
+            due("it holds", 0, x.climb(0));
+            noPlan(x, 1);
+            due("it breaks", 1, x.climb(1));
+        }
+    }
+
     @Says("the one by which all STRANDS are WORN least at last (added)")
     private static void theLeastWearIsAdded() {
         // The twine alone by 39: 1 and 1. Three by 13: 1 each, which is 3.
